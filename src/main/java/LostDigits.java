@@ -11,6 +11,7 @@ public final class LostDigits {
     private static final int LONGEST = 13;
     private static final int PAD_ROOM = 20;
     private static final int LETTERS = 5;
+    private static final int EVERY_PART = 1 << LETTERS;
     private static final int FARTHEST_NUMBER = 99;
     private static final int WIDEST_SPAN = 5;
     private static final int MOST_TERMS = 7;
@@ -169,7 +170,7 @@ public final class LostDigits {
             return LOST + OUTSIDE;
         }
         if (what == 1) {
-            steps.fractions.work(now.text, now.numbers);
+            steps.fractions.workParts(now.text, now.numbers, EVERY_PART);
             return steps.fractions.billionths(step, 0);
         }
         workNow();
@@ -180,7 +181,7 @@ public final class LostDigits {
         if (part < 0 || part > 1) {
             return LOST + OUTSIDE;
         }
-        steps.fractions.work(now.text, now.numbers);
+        steps.fractions.workParts(now.text, now.numbers, EVERY_PART);
         return steps.fractions.lowest(part);
     }
 
@@ -266,7 +267,7 @@ public final class LostDigits {
             case 1:
                 return sums.beside();
             case 2:
-                return sums.halves(0, now.termCount, 0);
+                return sums.halves();
             case 3:
                 return sums.bySize();
             default:
@@ -327,14 +328,15 @@ public final class LostDigits {
     }
 
     public int change(int rule, int step) {
-        int fit = fits(rule, step);
-        if (fit < 0) {
-            return fit;
+        if (!now.text.has(step)) {
+            return UNKNOWN;
         }
-        if (fit == 0) {
+        if (rule < 0 || rule >= RULE_COUNT) {
+            return OUTSIDE;
+        }
+        if (!Rules.write(now.text, rule, step, search.once)) {
             return NO;
         }
-        Rules.write(now.text, rule, step, search.once);
         now.text.copyFrom(search.once);
         forgetFindings();
         return now.text.length;
@@ -473,21 +475,24 @@ public final class LostDigits {
         }
     }
 
-    /** The signs of a text; for each of them the place behind the part that begins there. */
+    /** The signs of a text; for each of them the place behind the part that begins there, and that part's letters. */
     private static final class Text {
         final int[] signs = new int[LONGEST];
         final int[] ends = new int[LONGEST];
+        /** A bit for each letter, and the bit above them for every part. */
+        final int[] letters = new int[LONGEST];
         int length;
 
         Text() {
             signs[0] = 'a';
-            ends[0] = 1;
             length = 1;
+            findParts();
         }
 
         void copyFrom(Text other) {
             System.arraycopy(other.signs, 0, signs, 0, LONGEST);
             System.arraycopy(other.ends, 0, ends, 0, LONGEST);
+            System.arraycopy(other.letters, 0, letters, 0, LONGEST);
             length = other.length;
         }
 
@@ -496,7 +501,7 @@ public final class LostDigits {
             for (int i = 0; i < count && i < row.length; i++) {
                 add(row[i]);
             }
-            findEnds();
+            findParts();
         }
 
         void add(int sign) {
@@ -516,9 +521,16 @@ public final class LostDigits {
             addPlaces(other, place, other.endOf(place));
         }
 
-        void findEnds() {
+        void findParts() {
             for (int i = length - 1; i >= 0; i--) {
-                ends[i] = isOperator(signs[i]) ? endOf(endOf(i + 1)) : i + 1;
+                if (isOperator(signs[i])) {
+                    int second = endOf(i + 1);
+                    ends[i] = endOf(second);
+                    letters[i] = lettersOf(i + 1) | lettersOf(second);
+                } else {
+                    ends[i] = i + 1;
+                    letters[i] = isLetter(signs[i]) ? EVERY_PART | (1 << (signs[i] - 'a')) : EVERY_PART;
+                }
             }
         }
 
@@ -527,11 +539,15 @@ public final class LostDigits {
         }
 
         int signAt(int place) {
-            return has(place) ? signs[place] : 0;
+            return place >= 0 && place < length ? signs[place] : 0;
         }
 
         int endOf(int place) {
-            return has(place) ? ends[place] : length;
+            return place >= 0 && place < length ? ends[place] : length;
+        }
+
+        int lettersOf(int place) {
+            return place >= 0 && place < length ? letters[place] : EVERY_PART;
         }
 
         /** Where the second of the two texts behind an operator begins. */
@@ -565,46 +581,31 @@ public final class LostDigits {
             tens = newTens;
         }
 
-        /** What a sign makes of two decimals told in billionths; false, if it divides by 0. */
+        /**
+         * What a sign makes of two decimals told in billionths; false, if it divides by 0.
+         * Without their last zeros decimals have four digits at most, so that products stay small.
+         */
         boolean join(int sign, long one, long other) {
-            switch (sign) {
-                case '+':
-                    hold(one + other, 1L, 0);
-                    return true;
-                case '-':
-                    hold(one - other, 1L, 0);
-                    return true;
-                case '*':
-                    multiply(one, other);
-                    return true;
-                default:
-                    return divide(one, other);
-            }
-        }
-
-        /** Without their last zeros decimals have four digits at most, so that products stay small. */
-        private void multiply(long one, long other) {
-            int oneZeros = lastZeros(one);
-            int otherZeros = lastZeros(other);
-            hold(one / TENS[oneZeros] * (other / TENS[otherZeros]), 1L, oneZeros + otherZeros - 9);
-        }
-
-        private boolean divide(long one, long other) {
-            if (other == 0) {
-                return false;
+            if (sign == '+' || sign == '-') {
+                hold(sign == '+' ? one + other : one - other, 1L, 0);
+                return true;
             }
             int oneZeros = lastZeros(one);
             int otherZeros = lastZeros(other);
-            long newUpper = one / TENS[oneZeros];
-            long newLower = Math.abs(other / TENS[otherZeros]);
-            hold(other < 0 ? -newUpper : newUpper, newLower, oneZeros - otherZeros + 9);
-            return true;
+            long oneDigits = one / TENS[oneZeros];
+            long otherDigits = other / TENS[otherZeros];
+            if (sign == '*') {
+                hold(oneDigits * otherDigits, 1L, oneZeros + otherZeros - 9);
+                return true;
+            }
+            hold(other < 0 ? -oneDigits : oneDigits, Math.abs(otherDigits), oneZeros - otherZeros + 9);
+            return other != 0;
         }
 
         private static int lastZeros(long number) {
             int zeros = 0;
             long rest = number;
-            while (rest != 0 && rest % 10 == 0 && zeros < TOO_GREAT_PLACE) {
+            while (zeros < TOO_GREAT_PLACE && rest != 0 && rest % 10 == 0) {
                 rest /= 10;
                 zeros++;
             }
@@ -644,18 +645,22 @@ public final class LostDigits {
         }
 
         long of(Ratio number) {
-            if (number.upper == 0 || number.lower <= 0) {
+            if (number.upper == 0) {
                 return 0;
             }
             boolean isBelow = number.upper < 0;
             long upper = Math.abs(number.upper);
             long lower = number.lower;
             int tens = number.tens;
-            for (int i = 0; i < TOO_GREAT_PLACE + 2 && upper / 10 >= lower; i++) {
+            for (int i = 0; i < 3 && upper / 100000 >= lower; i++) {
+                lower *= 100000;
+                tens += 5;
+            }
+            for (int i = 0; i < TOO_GREAT_PLACE && upper / 10 >= lower; i++) {
                 lower *= 10;
                 tens++;
             }
-            for (int i = 0; i < TOO_GREAT_PLACE + 2 && upper < lower; i++) {
+            for (int i = 0; i < TOO_GREAT_PLACE && upper < lower; i++) {
                 upper *= 10;
                 tens--;
             }
@@ -670,10 +675,7 @@ public final class LostDigits {
                 rest %= lower;
                 tens--;
             }
-            if (goesOn(kept, rest, lower, isBelow)) {
-                kept++;
-            }
-            return placed(kept, tens, isBelow);
+            return placed(goesOn(kept, rest, lower, isBelow) ? kept + 1 : kept, tens, isBelow);
         }
 
         /** Whether the next decimal farther from 0 is the one to take. */
@@ -690,32 +692,22 @@ public final class LostDigits {
             return false;
         }
 
+        /** The decimal of these digits with that many zeros behind them: 0 or GREAT beyond the decimals. */
         private long placed(long kept, int tens, boolean isBelow) {
-            long digitsKept = kept;
-            int zeros = tens;
-            if (digits >= 0 && digits < TENS.length && digitsKept >= TENS[digits]) {
-                digitsKept /= 10;
-                zeros++;
-            }
+            boolean isOneLonger = digits >= 1 && digits <= MOST_DIGITS && kept >= TENS[digits];
+            long shown = isOneLonger ? kept / 10 : kept;
+            int zeros = isOneLonger ? tens + 1 : tens;
             int firstPlace = zeros + digits - 1;
             if (firstPlace >= TOO_GREAT_PLACE) {
                 return GREAT;
             }
-            if (firstPlace < LEAST_PLACE || zeros < 0 || zeros >= TENS.length) {
-                return tiny(isBelow);
+            long far = 0;
+            if (firstPlace >= LEAST_PLACE && zeros >= 0 && zeros < TENS.length) {
+                far = shown * TENS[zeros];
+            } else if (keepsTiny && way == (isBelow ? DOWN : UP)) {
+                far = LEAST;
             }
-            long far = digitsKept * TENS[zeros];
             return isBelow ? -far : far;
-        }
-
-        private long tiny(boolean isBelow) {
-            if (!keepsTiny) {
-                return 0;
-            }
-            if (isBelow) {
-                return way == DOWN ? -LEAST : 0;
-            }
-            return way == UP ? LEAST : 0;
         }
     }
 
@@ -724,15 +716,20 @@ public final class LostDigits {
         final long[] uppers = new long[LONGEST];
         final long[] lowers = new long[LONGEST];
 
-        /** Seven leaves of up to 104 keep both numbers below 64 times 104 to the 7th, so they need no cutting down. */
-        void work(Text text, int[] numbers) {
+        /**
+         * Works only those parts that have one of some letters: the others are as they were.
+         * Seven leaves of up to 104 keep both numbers below 64 times 104 to the 7th, so they need no cutting down.
+         */
+        void workParts(Text text, int[] numbers, int letters) {
             for (int i = text.length - 1; i >= 0; i--) {
-                int sign = text.signAt(i);
-                if (isOperator(sign)) {
-                    join(i, sign, text.secondOf(i));
-                } else {
-                    uppers[i] = numberOf(sign, numbers);
-                    lowers[i] = 1;
+                if ((text.letters[i] & letters) != 0) {
+                    int sign = text.signs[i];
+                    if (isOperator(sign)) {
+                        join(i, sign, text.secondOf(i));
+                    } else {
+                        uppers[i] = numberOf(sign, numbers);
+                        lowers[i] = 1;
+                    }
                 }
             }
         }
@@ -828,7 +825,9 @@ public final class LostDigits {
                 int sign = text.signAt(i);
                 boolean isNumber = true;
                 if (isOperator(sign)) {
-                    isNumber = join(sign, at(values, i + 1), at(values, text.secondOf(i)));
+                    long one = at(values, i + 1);
+                    long other = at(values, text.secondOf(i));
+                    isNumber = one != GREAT && other != GREAT && ratio.join(sign, one, other);
                 } else {
                     ratio.hold(numberOf(sign, numbers), 1L, 9);
                 }
@@ -837,16 +836,12 @@ public final class LostDigits {
             }
         }
 
-        private boolean join(int sign, long one, long other) {
-            return one != GREAT && other != GREAT && ratio.join(sign, one, other);
-        }
-
         long lossOf(Text text, int[] numbers) {
             work(text, numbers);
             if (values[0] == GREAT) {
                 return GREAT;
             }
-            fractions.work(text, numbers);
+            fractions.workParts(text, numbers, EVERY_PART);
             long due = fractions.billionths(0, 0);
             return due == GREAT ? GREAT : values[0] - due;
         }
@@ -909,8 +904,12 @@ public final class LostDigits {
             return all;
         }
 
+        long halves() {
+            return halfSum(0, count, 0);
+        }
+
         /** The sum by halves of the terms from one on to before another. */
-        long halves(int from, int to, int depth) {
+        private long halfSum(int from, int to, int depth) {
             int size = to - from;
             if (from < 0 || to > count || size < 1 || depth > MOST_TERMS) {
                 return 0;
@@ -919,7 +918,7 @@ public final class LostDigits {
                 return terms[from];
             }
             int middle = from + (size + 1) / 2;
-            return plus(halves(from, middle, depth + 1), halves(middle, to, depth + 1));
+            return plus(halfSum(from, middle, depth + 1), halfSum(middle, to, depth + 1));
         }
 
         long bySize() {
@@ -975,11 +974,11 @@ public final class LostDigits {
                 return;
             }
             for (int i = 0; i < sums.count; i++) {
-                if ((used >> i & 1) == 0) {
+                if (((used >> i) & 1) == 0) {
                     long next = depth == 0 ? sums.terms[i] : sums.plus(all, sums.terms[i]);
                     if (next != GREAT) {
                         path[depth] = i;
-                        extend(depth + 1, used | 1 << i, next);
+                        extend(depth + 1, used | (1 << i), next);
                     }
                 }
             }
@@ -1086,10 +1085,11 @@ public final class LostDigits {
             }
             isFound = true;
             int trials = startTrials(page);
+            int changed = EVERY_PART;
             least = GREAT;
             greatest = -GREAT;
             for (int i = 0; i < trials; i++) {
-                fractions.work(page.text, trial);
+                fractions.workParts(page.text, trial, changed);
                 long below = fractions.billionths(0, -1);
                 if (below == GREAT) {
                     least = GREAT;
@@ -1097,38 +1097,38 @@ public final class LostDigits {
                     return;
                 }
                 least = Math.min(least, below);
-                greatest = Math.max(greatest, fractions.billionths(0, 1));
-                nextTrial(page.numbers);
+                // what is cut down below the greatest one is not above it when cut up
+                if (below >= greatest) {
+                    greatest = fractions.billionths(0, 1);
+                }
+                changed = nextTrial(page.numbers);
             }
         }
 
         /** Only letters of the text are tried in all their numbers: how many trials that makes. */
         private int startTrials(Page page) {
-            for (int i = 0; i < LETTERS; i++) {
-                trial[i] = page.numbers[i];
-                widths[i] = 0;
-            }
-            for (int i = 0; i < page.text.length; i++) {
-                int letter = page.text.signAt(i) - 'a';
-                if (letter >= 0 && letter < LETTERS) {
-                    widths[letter] = page.spans[letter];
-                }
-            }
+            int used = page.text.lettersOf(0);
             int trials = 1;
             for (int i = 0; i < LETTERS; i++) {
+                trial[i] = page.numbers[i];
+                widths[i] = (used & (1 << i)) == 0 ? 0 : page.spans[i];
                 trials *= widths[i] + 1;
             }
             return trials;
         }
 
-        private void nextTrial(int[] numbers) {
+        /** Counts on like a row of wheels: the letters that have another number now. */
+        private int nextTrial(int[] numbers) {
+            int changed = 0;
             for (int i = 0; i < LETTERS && i < numbers.length; i++) {
+                changed |= 1 << i;
                 if (trial[i] < numbers[i] + widths[i]) {
                     trial[i]++;
-                    return;
+                    return changed;
                 }
                 trial[i] = numbers[i];
             }
+            return changed;
         }
     }
 
@@ -1176,8 +1176,11 @@ public final class LostDigits {
                 && text.areAlike(second + 1, text.secondOf(second));
         }
 
-        /** Writes into another text what a rule, which fits, makes of one. */
-        static void write(Text from, int rule, int step, Text into) {
+        /** Writes into another text what a rule makes of one; false, if it does not fit. */
+        static boolean write(Text from, int rule, int step, Text into) {
+            if (!suits(from, rule, step)) {
+                return false;
+            }
             into.length = 0;
             into.addPlaces(from, 0, step);
             if (rule == 2 || rule == 3 || rule == 4) {
@@ -1186,7 +1189,8 @@ public final class LostDigits {
                 writeShift(from, rule, step, into);
             }
             into.addPlaces(from, from.endOf(step), from.length);
-            into.findEnds();
+            into.findParts();
+            return true;
         }
 
         private static void writeShift(Text from, int rule, int step, Text into) {
@@ -1248,7 +1252,7 @@ public final class LostDigits {
         long bestLoss = GREAT;
         int foundRules = NONE;
 
-        /** Texts of fewer rules are looked at first, so that of like ones the first stays. */
+        /** Texts of fewer rules are looked at first, and steps before rules, so that of like ones the first stays. */
         void find(Page page, int rules) {
             if (foundRules == rules) {
                 return;
@@ -1258,32 +1262,22 @@ public final class LostDigits {
             steps.rounding.turn(page.digits, page.way);
             consider(page.text, page.numbers);
             for (int depth = 1; depth <= rules && depth <= MOST_RULES; depth++) {
-                changeOnce(page, depth == 2);
-            }
-        }
-
-        private void changeOnce(Page page, boolean goesOn) {
-            for (int step = 0; step < page.text.length; step++) {
-                for (int rule = 0; rule < RULE_COUNT; rule++) {
-                    if (Rules.suits(page.text, rule, step)) {
-                        Rules.write(page.text, rule, step, once);
-                        if (goesOn) {
-                            changeTwice(page.numbers);
-                        } else {
+                for (int i = 0; i < page.text.length * RULE_COUNT; i++) {
+                    if (Rules.write(page.text, i % RULE_COUNT, i / RULE_COUNT, once)) {
+                        if (depth == 1) {
                             consider(once, page.numbers);
+                        } else {
+                            changeAgain(page.numbers);
                         }
                     }
                 }
             }
         }
 
-        private void changeTwice(int[] numbers) {
-            for (int step = 0; step < once.length; step++) {
-                for (int rule = 0; rule < RULE_COUNT; rule++) {
-                    if (Rules.suits(once, rule, step)) {
-                        Rules.write(once, rule, step, twice);
-                        consider(twice, numbers);
-                    }
+        private void changeAgain(int[] numbers) {
+            for (int i = 0; i < once.length * RULE_COUNT; i++) {
+                if (Rules.write(once, i % RULE_COUNT, i / RULE_COUNT, twice)) {
+                    consider(twice, numbers);
                 }
             }
         }
