@@ -196,11 +196,20 @@ public final class PromiseTests {
         x.set(1, 0);
         round(x, 12345, 1, -9, 12340L);
         round(x, 99995, 1, -9, 100000L);
+        round(x, 99995, 100000, -6, 1000L);
+        round(x, 99994, 100000, -6, 0L);
+        round(x, 999950, 1, 1, GREAT);
+        round(x, 999949, 1, 1, 9999000 * ONE);
+        round(x, -1000000, 1, 0, -1000000 * ONE);
         round(x, 12345, 10000, -6, 1234L);
         x.set(0, 1);
         round(x, 25, 1, 0, 20 * ONE);
         round(x, 35, 1, 0, 40 * ONE);
         round(x, 95, 1, 0, 100 * ONE);
+        round(x, 95, 100, -6, 1000L);
+        round(x, 94, 100, -6, 0L);
+        round(x, 950000, 1, 1, GREAT);
+        round(x, 949999, 1, 1, 9000000 * ONE);
         round(x, 1000001, 1, 0, LOST - 2);
         round(x, -1000001, 1, 0, LOST - 2);
         round(x, 1, 0, 0, LOST - 2);
@@ -470,6 +479,10 @@ public final class PromiseTests {
         exact(with("/ab", 6, 0), GREAT, GREAT);
         exact(with("*0/a0", 6), GREAT, GREAT);
         exact(with("/a/0b", 6), GREAT, GREAT);
+        exact(with("/1/a0", 6), GREAT, GREAT);
+        exact(with("//a01", 6), GREAT, GREAT);
+        exact(with("/a/b3", 2, -5), -6, 5);
+        exact(with("//b3a", -2, 5), -5, 6);
         exact(with("******aaaaaaa", 99), 93206534790699L, 1);
         exact(with("//////aaaaaaa", 99), 1, 9509900499L);
         exact(with("++/1a/1b/1+cd", 97, 89, 40, 43), 24071, 716539);
@@ -487,6 +500,11 @@ public final class PromiseTests {
         due("loss()", with("/ab", 2, 3).loss(), 333334L);
         due("loss()", with("/ab", -2, 3).loss(), -333334L);
         due("loss()", with("+ab", 2, 3).loss(), 0);
+        LostDigits y = with("/ab", 2, 3);
+        y.set(0, 1);
+        due("loss()", y.loss(), 33333334L);
+        y.set(1, 1);
+        due("loss()", y.loss(), -66666666L);
         due("loss()", with("/a0").loss(), GREAT);
         due("loss()", with("-***aaab1", 50, 80).loss(), GREAT);
         LostDigits x = with("***aaab", 51, 80);
@@ -519,6 +537,11 @@ public final class PromiseTests {
         due("worst()", x.worst(), 2);
         numbers(x, 40, 50);
         due("worst()", x.worst(), -6);
+        // a slip of one billionth: 1 by 729000 is 0.000001371742
+        x = with("/1*a*aa", 90);
+        x.set(0, 4);
+        due("worked(0, 2)", x.worked(0, 2), 1);
+        due("worst()", x.worst(), 0);
         // EXACT is GREAT, but what the TEXT is WORKED to is not, and slips are of that
         x = with("/1-+aa-bc", 36, 74, 2);
         x.set(0, 1);
@@ -591,6 +614,7 @@ public final class PromiseTests {
         LostDigits x = fresh();
         due("clear()", x.clear(), 0);
         terms(x, 1, 2, 3);
+        due("orders(0)", x.orders(0), 0);
         due("clear()", x.clear(), 3);
         due("told(4)", x.told(4), 0);
         due("about(0)", x.about(0), LOST - 1);
@@ -730,6 +754,7 @@ public final class PromiseTests {
         x.set(0, 4);
         due("orders(1)", x.orders(1), 0);
         x.set(0, 3);
+        due("orders(1)", x.orders(1), -8 * ONE);
         x.set(1, 2);
         due("orders(1)", x.orders(1), 12 * ONE);
         x.image(0);
@@ -822,6 +847,13 @@ public final class PromiseTests {
         ends(spanned("**aa*aa", 54, 1, 0, 0), 8460000 * ONE, 9190000 * ONE);
         // 56 to the 4th is 9834496, and 9859600 by 3140 and 3140
         ends(spanned("**aa*aa", 56, 0, 0, 0), 9790000 * ONE, 9860000 * ONE);
+        // 119 times 84000 is 9996000: down it is 9990000, up it is too great
+        for (int sign = -1; sign <= 1; sign += 2) {
+            LostDigits y = with("*+ab*c*de", 99, 20, sign * 84, 50, 20);
+            ends(y, GREAT, GREAT);
+            y.set(0, 4);
+            ends(y, sign * 9996000 * ONE, sign * 9996000 * ONE);
+        }
         LostDigits x = spanned("**aa*aa", 56, 0, 0, 0);
         x.set(0, 1);
         ends(x, GREAT, GREAT);
@@ -917,7 +949,7 @@ public final class PromiseTests {
         fits("//abc", 6, 0, 0);
         fits("*a/bc", 6, 0, 0);
         fits("+a/b/cd", 6, 2, 1);
-        // 11 signs by x of one sign, 10 + 1 + 3 by x of three: 13, and 14 would be too many
+        // one sign and x come to those that there are: 13 are fine, 15 too many
         fits("*a+b++++cdeab", 2, 0, 0);
         fits("*a+b+++cdea", 2, 0, 1);
         fits("*+ab+c++dea", 2, 0, 0);
@@ -953,6 +985,7 @@ public final class PromiseTests {
         change("-*+abc*+abd", 3, 0, "*+ab-cd");
         change("-*aa*bb", 4, 0, "*-ab+ab");
         change("-*/ab/ab*cc", 4, 0, "*-/abc+/abc");
+        change("-*cc*/ab/ab", 4, 0, "*-c/ab+c/ab");
         change("--*abcd", 5, 0, "-*ab+cd");
         change("/+ab/*cde", 6, 0, "/*+abe*cd");
         change("+1*-a2/b/cd", 6, 6, "+1*-a2/*bdc");
@@ -1027,6 +1060,11 @@ public final class PromiseTests {
         best(x, 0, ONE, "-*ab*ca");
         best(x, 1, ONE, "-*ab*ca");
         best(x, 2, 0, "*a-bc");
+        // 20 times 3; only when it is turned can 3 be told out: 30 and 20, exactly 48
+        x = with("*+bca", 3, 9, 7);
+        x.set(0, 1);
+        best(x, 1, 12 * ONE, "*+bca");
+        best(x, 2, 2 * ONE, "+*ab*ac");
         // both products would have to be turned first, and that is one RULE too many
         x = with("-*ba*ca", 98, 99, 97);
         x.set(0, 2);
@@ -1040,6 +1078,9 @@ public final class PromiseTests {
     private static void promise26BetterSign() {
         promise = 26;
         LostDigits x = with("-*aa*bb", 98, 97);
+        due("betterSign(1, 0)", x.betterSign(1, 0), '*');
+        due("betterSign(0, 0)", x.betterSign(0, 0), '-');
+        due("betterSign(2, 1)", x.betterSign(2, 1), '-');
         best(x, 1, 0, "*-ab+ab");
         due("betterSign(1, 7)", x.betterSign(1, 7), -6);
         due("betterSign(1, 13)", x.betterSign(1, 13), -2);
