@@ -1,6 +1,7 @@
 /**
  * For each promise of the document: ordinary calls, the edges that it names, wrong calls. The answers that are due
- * were worked out by hand from the document.
+ * were worked out by hand from the document; some cases (like losses in orders, in BETTER) were found by running the
+ * class, and their answers then checked by hand.
  */
 public final class PromiseTests {
     private static final long ONE = 1000000000L;
