@@ -284,7 +284,7 @@ public final class LostDigits {
     }
 
     public int order(int most, int i) {
-        if (most < 0 || most > 1 || i < -1 || i >= MOST_TERMS) {
+        if (most < 0 || most > 1 || i < -1) {
             return OUTSIDE;
         }
         allOrders.find(now);
@@ -294,7 +294,7 @@ public final class LostDigits {
         if (i < 0) {
             return allOrders.counts[most];
         }
-        return i < now.termCount ? allOrders.firsts[most][i] : NONE;
+        return i < now.termCount && i < MOST_TERMS ? allOrders.firsts[most][i] : NONE;
     }
 
     // ---- 4 spans
@@ -351,7 +351,7 @@ public final class LostDigits {
     }
 
     public int betterSign(int rules, int i) {
-        if (rules < 0 || rules > MOST_RULES || i < -1 || i >= LONGEST) {
+        if (rules < 0 || rules > MOST_RULES || i < -1) {
             return OUTSIDE;
         }
         search.find(now, rules);

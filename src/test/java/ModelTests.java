@@ -255,7 +255,7 @@ public final class ModelTests {
                 }
                 case 19 -> {
                     a = arg(0, 1);
-                    b = arg(-1, 7);
+                    b = arg(-1, 9);
                     check(id, "order(" + a + ", " + b + ")", real.order(a, b), model.order(a, b));
                 }
                 case 20 -> {
@@ -293,7 +293,7 @@ public final class ModelTests {
                 case 25 -> {
                     a = arg(0, 2);
                     for (int i = -1; i < 4; i++) {
-                        b = i < 0 ? -1 : arg(-1, 13);
+                        b = i < 0 ? -1 : arg(-1, 15);
                         check(id, "betterSign(" + a + ", " + b + ")", real.betterSign(a, b), model.betterSign(a, b));
                     }
                 }
@@ -827,7 +827,7 @@ public final class ModelTests {
         }
 
         int order(int most, int i) {
-            if (!in(most, 0, 1) || !in(i, -1, 6)) {
+            if (!in(most, 0, 1) || i < -1) {
                 return OUTSIDE;
             }
             makeOrders();
@@ -1044,7 +1044,7 @@ public final class ModelTests {
         }
 
         int betterSign(int rules, int i) {
-            if (!in(rules, 0, 2) || !in(i, -1, 12)) {
+            if (!in(rules, 0, 2) || i < -1) {
                 return OUTSIDE;
             }
             String s = best(rules);

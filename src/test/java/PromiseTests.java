@@ -8,6 +8,8 @@ public final class PromiseTests {
     private static final long LOST = LostDigits.LOST;
     private static final long GREAT = LostDigits.GREAT;
     private static final int[] WILD = {Integer.MIN_VALUE, -1000000, -7, 1000, Integer.MAX_VALUE};
+    private static final int[] FAR_BELOW = {Integer.MIN_VALUE, Integer.MIN_VALUE + 1, -1000000, -7, -3, -2};
+    private static final int[] FAR_BEYOND = {13, 14, 15, 16, 20, 32, 64, 1000, 1 << 30, Integer.MAX_VALUE};
 
     private static int wrong = 0;
     private static int checks = 0;
@@ -773,20 +775,51 @@ public final class PromiseTests {
         terms(x, 1, 2, 3, 4, 5, 6, 7);
         orders(x, 0, 0, 5040, 0, 1, 2, 3, 4, 5, 6);
         orders(x, 1, 0, 5040, 0, 1, 2, 3, 4, 5, 6);
-        due("order(0, 7)", x.order(0, 7), -2);
-        due("order(0, -2)", x.order(0, -2), -2);
         due("order(2, 0)", x.order(2, 0), -2);
         due("order(-1, -1)", x.order(-1, -1), -2);
         for (int v : WILD) {
-            due("order(0, " + v + ")", x.order(0, v), -2);
             due("order(" + v + ", 0)", x.order(v, 0), -2);
         }
-        terms(x, 1, 2);
-        due("order(0, 2) of two", x.order(0, 2), -6);
         terms(x, 9000000, 9000000);
         due("order(0, -1)", x.order(0, -1), -6);
         due("order(1, 0)", x.order(1, 0), -6);
-        due("order(1, -2)", x.order(1, -2), -2);
+        orderBeyondTheTerms();
+    }
+
+    /** There is no greatest i: where the first order has no i-th TERM, or there is no order, there is none. */
+    private static void orderBeyondTheTerms() {
+        // an object is promised for 512 calls alone, so each number of TERMS has its own
+        for (int count = 0; count <= 7; count++) {
+            LostDigits some = fresh();
+            for (int i = 1; i <= count; i++) {
+                some.term(i * ONE);
+            }
+            noTermFrom(some, count);
+        }
+        // orders that are all GREAT have no first one, so not even a TERM that there is
+        LostDigits x = fresh();
+        terms(x, 9000000, 9000000);
+        noTermFrom(x, 0);
+        x.clear();
+        noTermFrom(x, 0);
+        for (int i : FAR_BEYOND) {
+            due("order(2, " + i + ")", x.order(2, i), -2);
+            due("order(-1, " + i + ")", x.order(-1, i), -2);
+        }
+    }
+
+    private static void noTermFrom(LostDigits x, int first) {
+        for (int most = 0; most <= 1; most++) {
+            for (int i = first; i <= 12; i++) {
+                due("order(" + most + ", " + i + ")", x.order(most, i), -6);
+            }
+            for (int i : FAR_BEYOND) {
+                due("order(" + most + ", " + i + ")", x.order(most, i), -6);
+            }
+            for (int i : FAR_BELOW) {
+                due("order(" + most + ", " + i + ")", x.order(most, i), -2);
+            }
+        }
     }
 
     private static void ends(LostDigits x, long least, long greatest) {
@@ -1083,13 +1116,9 @@ public final class PromiseTests {
         due("betterSign(0, 0)", x.betterSign(0, 0), '-');
         due("betterSign(2, 1)", x.betterSign(2, 1), '-');
         best(x, 1, 0, "*-ab+ab");
-        due("betterSign(1, 7)", x.betterSign(1, 7), -6);
-        due("betterSign(1, 13)", x.betterSign(1, 13), -2);
-        due("betterSign(1, -2)", x.betterSign(1, -2), -2);
         due("betterSign(3, 0)", x.betterSign(3, 0), -2);
         due("betterSign(-1, 0)", x.betterSign(-1, 0), -2);
         for (int v : WILD) {
-            due("betterSign(1, " + v + ")", x.betterSign(1, v), -2);
             due("betterSign(" + v + ", 0)", x.betterSign(v, 0), -2);
         }
         x.put(1, 0, 98);
@@ -1103,7 +1132,38 @@ public final class PromiseTests {
         x = with("/a0");
         due("betterSign(0, -1)", x.betterSign(0, -1), -6);
         due("betterSign(2, 0)", x.betterSign(2, 0), -6);
-        due("betterSign(2, -2)", x.betterSign(2, -2), -2);
+        betterSignBeyondTheText();
+    }
+
+    /** There is no greatest i: where the text has no i-th sign, or all are GREAT, there is none. */
+    private static void betterSignBeyondTheText() {
+        noSignFrom(fresh(), 1);
+        noSignFrom(with("-*aa*bb", 98, 97), 7);
+        noSignFrom(with("+a+b+c+d+e+ab", 2, 3, 4, 5, 6), 13);
+        noSignFrom(with("/a0"), 0);
+        // a rule may leave fewer signs: those of the TEXT that are gone are none as well
+        LostDigits x = with("+*ca*c+dd", 84, 1, 26, 81);
+        due("betterSign(0, 7)", x.betterSign(0, 7), 'd');
+        due("betterSign(1, 7)", x.betterSign(1, 7), -6);
+        due("betterSign(2, 8)", x.betterSign(2, 8), -6);
+        for (int i : FAR_BEYOND) {
+            due("betterSign(3, " + i + ")", x.betterSign(3, i), -2);
+            due("betterSign(-1, " + i + ")", x.betterSign(-1, i), -2);
+        }
+    }
+
+    private static void noSignFrom(LostDigits x, int first) {
+        for (int rules = 0; rules <= 2; rules++) {
+            for (int i = first; i <= 12; i++) {
+                due("betterSign(" + rules + ", " + i + ")", x.betterSign(rules, i), -6);
+            }
+            for (int i : FAR_BEYOND) {
+                due("betterSign(" + rules + ", " + i + ")", x.betterSign(rules, i), -6);
+            }
+            for (int i : FAR_BELOW) {
+                due("betterSign(" + rules + ", " + i + ")", x.betterSign(rules, i), -2);
+            }
+        }
     }
 
     private static LostDigits rich() {
