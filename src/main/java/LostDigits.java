@@ -18,6 +18,8 @@ public final class LostDigits {
     private static final int MOST_DIGITS = 4;
     private static final int RULE_COUNT = 7;
     private static final int MOST_RULES = 2;
+    /** In place of the number of a TERM or a sign: how many there are. */
+    private static final int HOW_MANY = -1;
 
     private static final int NEAREST = 0;
     private static final int UP = 2;
@@ -284,17 +286,17 @@ public final class LostDigits {
     }
 
     public int order(int most, int i) {
-        if (most < 0 || most > 1 || i < -1) {
+        if (most < 0 || most > 1) {
             return OUTSIDE;
         }
         allOrders.find(now);
         if (allOrders.counts[most] == 0) {
             return NONE;
         }
-        if (i < 0) {
+        if (i == HOW_MANY) {
             return allOrders.counts[most];
         }
-        return i < now.termCount && i < MOST_TERMS ? allOrders.firsts[most][i] : NONE;
+        return i >= 0 && i < now.termCount && i < MOST_TERMS ? allOrders.firsts[most][i] : NONE;
     }
 
     // ---- 4 spans
@@ -351,14 +353,14 @@ public final class LostDigits {
     }
 
     public int betterSign(int rules, int i) {
-        if (rules < 0 || rules > MOST_RULES || i < -1) {
+        if (rules < 0 || rules > MOST_RULES) {
             return OUTSIDE;
         }
         search.find(now, rules);
         if (search.bestLoss == GREAT) {
             return NONE;
         }
-        if (i < 0) {
+        if (i == HOW_MANY) {
             return search.best.length;
         }
         return search.best.has(i) ? search.best.signAt(i) : NONE;

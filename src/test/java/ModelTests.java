@@ -255,7 +255,7 @@ public final class ModelTests {
                 }
                 case 19 -> {
                     a = arg(0, 1);
-                    b = arg(-1, 9);
+                    b = arg(-3, 9);
                     check(id, "order(" + a + ", " + b + ")", real.order(a, b), model.order(a, b));
                 }
                 case 20 -> {
@@ -293,7 +293,7 @@ public final class ModelTests {
                 case 25 -> {
                     a = arg(0, 2);
                     for (int i = -1; i < 4; i++) {
-                        b = i < 0 ? -1 : arg(-1, 15);
+                        b = i < 0 ? -1 : arg(-3, 15);
                         check(id, "betterSign(" + a + ", " + b + ")", real.betterSign(a, b), model.betterSign(a, b));
                     }
                 }
@@ -827,11 +827,11 @@ public final class ModelTests {
         }
 
         int order(int most, int i) {
-            if (!in(most, 0, 1) || i < -1) {
+            if (!in(most, 0, 1)) {
                 return OUTSIDE;
             }
             makeOrders();
-            if (ways.isEmpty() || i >= now.terms.size()) {
+            if (ways.isEmpty() || !in(i, -1, now.terms.size() - 1)) {
                 return NONE;
             }
             long lost = chosen(most);
@@ -1044,11 +1044,11 @@ public final class ModelTests {
         }
 
         int betterSign(int rules, int i) {
-            if (!in(rules, 0, 2) || i < -1) {
+            if (!in(rules, 0, 2)) {
                 return OUTSIDE;
             }
             String s = best(rules);
-            if (s == null || i >= s.length()) {
+            if (s == null || !in(i, -1, s.length() - 1)) {
                 return NONE;
             }
             return i < 0 ? s.length() : s.charAt(i);

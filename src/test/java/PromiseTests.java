@@ -8,7 +8,9 @@ public final class PromiseTests {
     private static final long LOST = LostDigits.LOST;
     private static final long GREAT = LostDigits.GREAT;
     private static final int[] WILD = {Integer.MIN_VALUE, -1000000, -7, 1000, Integer.MAX_VALUE};
-    private static final int[] FAR_BELOW = {Integer.MIN_VALUE, Integer.MIN_VALUE + 1, -1000000, -7, -3, -2};
+    private static final int[] FAR_BELOW = {
+        Integer.MIN_VALUE, Integer.MIN_VALUE + 1, -(1 << 30), -1000000, -14, -13, -8, -7, -6, -5, -4, -3, -2
+    };
     private static final int[] FAR_BEYOND = {13, 14, 15, 16, 20, 32, 64, 1000, 1 << 30, Integer.MAX_VALUE};
 
     private static int wrong = 0;
@@ -783,29 +785,32 @@ public final class PromiseTests {
         terms(x, 9000000, 9000000);
         due("order(0, -1)", x.order(0, -1), -6);
         due("order(1, 0)", x.order(1, 0), -6);
-        orderBeyondTheTerms();
+        orderWithoutThatTerm();
     }
 
-    /** There is no greatest i: where the first order has no i-th TERM, or there is no order, there is none. */
-    private static void orderBeyondTheTerms() {
+    /** No i is too great or too low: where the first order has no i-th TERM, or there is no order, there is none. */
+    private static void orderWithoutThatTerm() {
         // an object is promised for 512 calls alone, so each number of TERMS has its own
         for (int count = 0; count <= 7; count++) {
             LostDigits some = fresh();
+            int ways = 1;
             for (int i = 1; i <= count; i++) {
                 some.term(i * ONE);
+                ways *= i;
             }
             noTermFrom(some, count);
+            noSuchEnd(some);
+            due("order(0, -1)", some.order(0, -1), count == 0 ? -6 : ways);
+            due("order(1, -1)", some.order(1, -1), count == 0 ? -6 : ways);
         }
         // orders that are all GREAT have no first one, so not even a TERM that there is
         LostDigits x = fresh();
         terms(x, 9000000, 9000000);
         noTermFrom(x, 0);
+        noSuchEnd(x);
         x.clear();
         noTermFrom(x, 0);
-        for (int i : FAR_BEYOND) {
-            due("order(2, " + i + ")", x.order(2, i), -2);
-            due("order(-1, " + i + ")", x.order(-1, i), -2);
-        }
+        noSuchEnd(x);
     }
 
     private static void noTermFrom(LostDigits x, int first) {
@@ -815,6 +820,21 @@ public final class PromiseTests {
             }
             for (int i : FAR_BEYOND) {
                 due("order(" + most + ", " + i + ")", x.order(most, i), -6);
+            }
+            for (int i : FAR_BELOW) {
+                due("order(" + most + ", " + i + ")", x.order(most, i), -6);
+            }
+        }
+    }
+
+    /** An end that is neither the nearest nor the farthest is not as told, whatever i is. */
+    private static void noSuchEnd(LostDigits x) {
+        for (int most = -1; most <= 2; most += 3) {
+            for (int i = -1; i <= 7; i++) {
+                due("order(" + most + ", " + i + ")", x.order(most, i), -2);
+            }
+            for (int i : FAR_BEYOND) {
+                due("order(" + most + ", " + i + ")", x.order(most, i), -2);
             }
             for (int i : FAR_BELOW) {
                 due("order(" + most + ", " + i + ")", x.order(most, i), -2);
@@ -1132,23 +1152,27 @@ public final class PromiseTests {
         x = with("/a0");
         due("betterSign(0, -1)", x.betterSign(0, -1), -6);
         due("betterSign(2, 0)", x.betterSign(2, 0), -6);
-        betterSignBeyondTheText();
+        betterSignWithoutThatSign();
     }
 
-    /** There is no greatest i: where the text has no i-th sign, or all are GREAT, there is none. */
-    private static void betterSignBeyondTheText() {
+    /** No i is too great or too low: where the text has no i-th sign, or all are GREAT, there is none. */
+    private static void betterSignWithoutThatSign() {
         noSignFrom(fresh(), 1);
         noSignFrom(with("-*aa*bb", 98, 97), 7);
         noSignFrom(with("+a+b+c+d+e+ab", 2, 3, 4, 5, 6), 13);
         noSignFrom(with("/a0"), 0);
+        noSuchRules(fresh());
+        noSuchRules(with("-*aa*bb", 98, 97));
+        noSuchRules(with("/a0"));
         // a rule may leave fewer signs: those of the TEXT that are gone are none as well
         LostDigits x = with("+*ca*c+dd", 84, 1, 26, 81);
         due("betterSign(0, 7)", x.betterSign(0, 7), 'd');
         due("betterSign(1, 7)", x.betterSign(1, 7), -6);
         due("betterSign(2, 8)", x.betterSign(2, 8), -6);
-        for (int i : FAR_BEYOND) {
-            due("betterSign(3, " + i + ")", x.betterSign(3, i), -2);
-            due("betterSign(-1, " + i + ")", x.betterSign(-1, i), -2);
+        // what is asked for below the text does not change how many signs there are
+        for (int rules = 0; rules <= 2; rules++) {
+            due("betterSign(" + rules + ", -2)", x.betterSign(rules, -2), -6);
+            due("betterSign(" + rules + ", -1)", x.betterSign(rules, -1), rules == 0 ? 9 : 7);
         }
     }
 
@@ -1159,6 +1183,21 @@ public final class PromiseTests {
             }
             for (int i : FAR_BEYOND) {
                 due("betterSign(" + rules + ", " + i + ")", x.betterSign(rules, i), -6);
+            }
+            for (int i : FAR_BELOW) {
+                due("betterSign(" + rules + ", " + i + ")", x.betterSign(rules, i), -6);
+            }
+        }
+    }
+
+    /** Another number of RULES is not as told, whatever i is. */
+    private static void noSuchRules(LostDigits x) {
+        for (int rules = -1; rules <= 3; rules += 4) {
+            for (int i = -1; i <= 12; i++) {
+                due("betterSign(" + rules + ", " + i + ")", x.betterSign(rules, i), -2);
+            }
+            for (int i : FAR_BEYOND) {
+                due("betterSign(" + rules + ", " + i + ")", x.betterSign(rules, i), -2);
             }
             for (int i : FAR_BELOW) {
                 due("betterSign(" + rules + ", " + i + ")", x.betterSign(rules, i), -2);
