@@ -13,7 +13,8 @@ public final class EdgesOfRefusals extends Edges {
         test("STATE -3 (as told), NO -5 (as told)", EdgesOfRefusals::outsideBeforeNo);
         test("NO -5 (as told), FULL -4.", EdgesOfRefusals::outsideBeforeFull);
         test("What refused calls answer; NONE: there is none; GREAT.", EdgesOfRefusals::outsideBeforeNone);
-        test("What is told of numbers in billionths: LOST and the refusal, GREAT.", EdgesOfRefusals::refusedBeforeGreat);
+        test("What is told of numbers in billionths: LOST and the refusal, GREAT.",
+            EdgesOfRefusals::refusedBeforeGreat);
         test("Numbers that may be below 0 and are told in billionths are refused with LOST and the refusal;",
             EdgesOfRefusals::refusedWithLost);
         test("NONE among them is LOST less 6.", EdgesOfRefusals::noneIsLostLessSix);

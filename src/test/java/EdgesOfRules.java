@@ -53,6 +53,7 @@ public final class EdgesOfRules extends Edges {
     private static void testImages() {
         test("All but the PAD is kept in an IMAGE (0, 1): 1. OUTSIDE.", EdgesOfRules::image);
         test("It is as it was when it was kept: 1. OUTSIDE;", EdgesOfRules::restore);
+        test("It is as it was when it was kept: 1.", EdgesOfRules::restoreFromAnyOther);
         test("OUTSIDE; STATE: it was not.", EdgesOfRules::restoreOfNone);
         test("0 signs on the PAD, 1 signs of the TEXT, 2 DIGITS, 3 WAY, 4 TERMS,", EdgesOfRules::toldCounts);
         test("10 to 14 numbers of letters, and 100, 20 to 24 their spans. OUTSIDE.", EdgesOfRules::toldLetters);
@@ -124,7 +125,7 @@ public final class EdgesOfRules extends Edges {
         return all;
     }
 
-    /** All texts of up to three signs + - * / and two letters: each RULE fits at just the STEPS that the document says. */
+    /** All texts of up to three signs + - * / and two letters: each RULE fits just where the document says. */
     private static void allShortTexts(int fromRule, int toRule) {
         for (int operators = 0; operators <= 3; operators++) {
             for (String signs : texts(operators, "ab")) {
@@ -536,6 +537,37 @@ public final class EdgesOfRules extends Edges {
         x.clear();
         due("restore(1)", x.restore(1), 1);
         same("kept anew", answers(x), first);
+    }
+
+    /** Very unlike states, told on whatever object. */
+    private static void tell(LostDigits x, int state) {
+        String[] all = {"7", "+ab", "*0*0*0*0*0*0a", "+1/ab", "+1/ba", "-*aa*bb", "/+*ab-cd+*eab"};
+        int[][] numbers = {{1}, {36, 44}, {36}, {5, 0}, {5, 0}, {98, 97}, {9, -8, 7, 60, 5}};
+        long[][] terms = {{}, {4, -9, -20}, {9}, {9000000, 9000000}, {1, 2, 3, 4, 5, 6, 7}, {1000, 4, 4}, {-4, 9}};
+        text(x, all[state]);
+        numbers(x, numbers[state]);
+        x.set(0, 1 + state % 4);
+        x.set(1, state % 3);
+        x.put(state % 5, 1, state % 6);
+        x.clear();
+        for (long term : terms[state]) {
+            x.term(term * ONE);
+        }
+    }
+
+    private static void restoreFromAnyOther() {
+        for (int kept = 0; kept < 7; kept++) {
+            for (int other = 0; other < 7; other++) {
+                LostDigits x = fresh();
+                tell(x, kept);
+                String before = answers(x);
+                x.image(kept % 2);
+                tell(x, other);
+                answers(x);
+                due("restore(" + kept % 2 + ")", x.restore(kept % 2), 1);
+                same("restored " + kept + " from " + other, answers(x), before);
+            }
+        }
     }
 
     private static void restoreOfNone() {

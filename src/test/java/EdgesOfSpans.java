@@ -1,8 +1,5 @@
 /** SPANS, BOUNDS, TRUTH: promises 21 and 22. */
 public final class EdgesOfSpans extends Edges {
-    /** 74 by 90 by 50 by 30 is 9990000, the greatest decimal of 3 digits; each step of it has no more than 3. */
-    private static final String MOST = "***abcd";
-
     public static void main(String[] args) {
         testBounds();
         testTruth();
@@ -259,7 +256,8 @@ public final class EdgesOfSpans extends Edges {
         for (String signs : all) {
             for (int digits = 1; digits <= 4; digits++) {
                 for (int step = 0; step < 6; step++) {
-                    LostDigits x = spanned(digits, signs, 7 * step - 12, step, 31 - 11 * step, 5 - step, 5 * step - 9, 2);
+                    LostDigits x = spanned(digits, signs, 7 * step - 12, step, 31 - 11 * step, 5 - step, 5 * step - 9,
+                        2);
                     boolean isGreat = x.bounds(0) == GREAT || x.truth(0) == GREAT;
                     due("bounds(0) of " + signs, isGreat || x.bounds(0) <= x.truth(0) ? 1 : 0, 1);
                     due("bounds(1) of " + signs, isGreat || x.bounds(1) >= x.truth(1) ? 1 : 0, 1);
@@ -326,6 +324,8 @@ public final class EdgesOfSpans extends Edges {
         truth(spanned("/1a", 0, 5), GREAT, GREAT);
         // 0 is neither the first nor the last of them
         truth(spanned("/1-a2", 0, 4), GREAT, GREAT);
+        truth(spanned("+1/1-a2", 0, 4), GREAT, GREAT);
+        truth(spanned("+1/1-a2", 3, 5), 1166666666L, 2 * ONE);
         truth(spanned("/1-a2", 0, 1), -ONE, -500000000L);
         truth(spanned("/1-a2", 3, 5), 166666666L, ONE);
         truth(spanned("/1-ab", 1, 3, 5, 2), -ONE, -166666666L);

@@ -22,6 +22,9 @@ public final class EdgesOfSums extends Edges {
     private static void testSums() {
         test("the first TERM as it is, each next one added, ROUNDED each time.", EdgesOfSums::firstAsItIs);
         test("BESIDE: kept with its lost part: s and c are 0;", EdgesOfSums::beside);
+        test("for each TERM t as told: y is t less c, z is s and y, c becomes (z less s) less y, s becomes z;",
+            EdgesOfSums::besideStepByStep);
+        test("c becomes (z less s) less y, s becomes z; each ROUNDED.", EdgesOfSums::besideEachRounded);
         test("HALVES: the SUM of the first half of the TERMS (the greater one of unlike halves)",
             EdgesOfSums::unlikeHalves);
         test("and that of the rest, each likewise, ROUNDED.", EdgesOfSums::halvesOfHalves);
@@ -285,6 +288,38 @@ public final class EdgesOfSums extends Edges {
         sums(x, 3000, 2000);
     }
 
+    private static void besideStepByStep() {
+        // z 1000, c -4; y 8, z 1010, c 2; y 2, z 1010, c -2; y 6, z 1020, c 4
+        LostDigits x = fresh();
+        long[] wants = {1000, 1000, 1010, 1010, 1020, 1020, 1020};
+        for (int i = 0; i < 7; i++) {
+            x.term((i == 0 ? 1000 : 4) * ONE);
+            due("sum(1) of " + (i + 1), x.sum(1), wants[i] * ONE);
+        }
+        // as told, not by size
+        due("sum(1)", summed(3, 0, 4, 1000).sum(1), 1000 * ONE);
+        due("sum(1)", summed(3, 0, 4, 1000, -1000).sum(1), 4 * ONE);
+        due("sum(1)", summed(3, 0, -1000, 1000, 4).sum(1), 4 * ONE);
+    }
+
+    /** Were only one of them not ROUNDED, each of these would come to another end. */
+    private static void besideEachRounded() {
+        // y: 10 and 4 is 10, c -4; -20 less -4 is -16, so -20
+        due("y", summed(1, 0, 10, 4, -20).sum(1), -10 * ONE);
+        due("y", summed(1, 1, -60, -4, 40).sum(1), -30 * ONE);
+        due("y", summed(1, 2, 60, 1, -60).sum(1), 10 * ONE);
+        due("y", summed(1, 3, -60, 4, 60).sum(1), 0);
+        // z less s: 3 and 30 is 30, less 3 is 27, so 30: nothing seems lost
+        due("z less s", summed(1, 0, 3, 30, 4).sum(1), 30 * ONE);
+        due("z less s", summed(1, 1, 6, -20, 5).sum(1), -10 * ONE);
+        due("z less s", summed(1, 2, 4, -60, -1).sum(1), -60 * ONE);
+        due("z less s", summed(1, 3, -3, 20, -60).sum(1), -40 * ONE);
+        // less y: 299 towards 0 is 200, less 300 is -100, less -1 is -99, so -90
+        due("c", summed(1, 1, 300, -1, 1).sum(1), 200 * ONE);
+        due("c", summed(1, 2, 4, 9, -10).sum(1), -10 * ONE);
+        due("c", summed(1, 3, -90, -90, 20).sum(1), 0);
+    }
+
     private static void unlikeHalves() {
         due("sum(2) of 1", summed(1, 0, 7).sum(2), 7 * ONE);
         due("sum(2) of 2", summed(1, 0, 10, 4).sum(2), 10 * ONE);
@@ -468,6 +503,26 @@ public final class EdgesOfSums extends Edges {
         refusedAll("orders(v)", WILD, (y, v) -> y.orders(v), LOST - 2);
         refused("orders(0)", Edges::small, y -> y.orders(0), 0);
         refused("orders(1)", Edges::small, y -> y.orders(1), 0);
+        ordersFollowChanges();
+    }
+
+    /** What was found is not told again when it is another. */
+    private static void ordersFollowChanges() {
+        LostDigits x = summed(3, 0, 1000, 4);
+        orders(x, 0, -4 * ONE, 2, 0, 1);
+        x.term(4 * ONE);
+        orders(x, 0, 2 * ONE, 2, 1, 2, 0);
+        x.set(0, 4);
+        orders(x, 0, 0, 6, 0, 1, 2);
+        x.set(0, 3);
+        x.set(1, 2);
+        orders(x, 1, 12 * ONE, 4, 0, 1, 2);
+        x.image(0);
+        x.clear();
+        x.term(ONE);
+        orders(x, 1, 0, 1, 0);
+        x.restore(0);
+        orders(x, 1, 12 * ONE, 4, 0, 1, 2);
     }
 
     private static LostDigits allGreat() {

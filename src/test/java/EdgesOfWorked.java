@@ -1,7 +1,6 @@
 /** WORKED, EXACT, SLIP, LOSS, WORST, NEEDS: promises 10 to 14. */
 public final class EdgesOfWorked extends Edges {
-    /** 74 by 90 by 50 by 30 is 9990000, the greatest decimal of 3 digits; each step of it has no more than 3. */
-    private static final String MOST = "***abcd";
+    /** Letters by which MOST is 9990000, and by which it is -9990000. */
     private static final int[] ABOVE = {74, 90, 50, 30, 99};
     private static final int[] BELOW = {-74, 90, 50, 30, 99};
 
@@ -219,6 +218,8 @@ public final class EdgesOfWorked extends Edges {
         exact(with("-/ab/ab", 2, 3), 0, 1);
         exact(with("+/1a/1b", 6, 3), 1, 2);
         exact(with("*/ab/ba", 6, 4), 1, 1);
+        exact(with("/a/b3", 2, -5), -6, 5);
+        exact(with("//b3a", -2, 5), -5, 6);
         // DIGITS and WAY do not matter
         exact(with(1, 2, "+/1a/1b", 97, 89), 186, 8633);
         exact(with("******aaaaaaa", 99), 93206534790699L, 1);
@@ -235,6 +236,14 @@ public final class EdgesOfWorked extends Edges {
             due("worked(0, 1) of " + signs, x.worked(0, 1), GREAT);
         }
         exact(with("/0a", 5), 0, 1);
+        // what it was before does not matter
+        LostDigits y = with("+1/ab", 5, 2);
+        exact(y, 7, 2);
+        y.put(1, 0, 0);
+        exact(y, GREAT, GREAT);
+        worked(y, 0, GREAT, GREAT, GREAT);
+        y.put(1, 0, 2);
+        exact(y, 7, 2);
         // only what it divides by without rounding counts: 40 less 40, 40 and 40 less 70
         exact(with(1, 0, "/1-ab", 36, 35), 1, 1);
         LostDigits x = with(1, 0, "/1-+aa-bc", 36, 74, 2);
@@ -320,6 +329,11 @@ public final class EdgesOfWorked extends Edges {
         // 0.0000013717421: told to 1372, cut to 1371
         slip(with(4, 0, "/1*a*aa", 90), 0, 1);
         slip(with(4, 0, "/b*a*aa", 90, -1), 0, -1);
+        // 0.01031 by 0.01031 is 0.0001062961: told to 106300, cut to 106296
+        slip(with(4, 0, "*/1a/1a", 97), 0, 4);
+        slip(with(4, 0, "*/1a/1b", 97, -97), 0, -4);
+        // towards 0 it is 0.0103 by 0.0103, 0.00010609
+        slip(with(4, 1, "*/1a/1a", 97), 0, -90);
         // and told down to 1371 nothing of whole billionths is lost
         slip(with(4, 1, "/1*a*aa", 90), 0, 0);
         slip(with(4, 1, "/b*a*aa", 90, -1), 0, 0);
@@ -416,6 +430,17 @@ public final class EdgesOfWorked extends Edges {
         // less than a billionth is lost, and that is no SLIP
         worst(with(4, 1, "/1*a*aa", 90), NONE);
         worst(with(4, 0, "/1*a*aa", 90), 0);
+        // a longer TEXT has left nothing, neither behind its last sign nor farther on
+        LostDigits y = with(1, 0, "+ab", 36, 44);
+        worst(y, 1);
+        text(y, "*0*0*0*0*0*0a");
+        worst(y, 12);
+        text(y, "7");
+        worst(y, NONE);
+        text(y, "+7*0a");
+        worst(y, 4);
+        text(y, "+1+1+11");
+        worst(y, NONE);
         // both slip, and the LOSS is 0
         LostDigits x = with(1, 0, "+ab", 36, 44);
         due("loss()", x.loss(), 0);

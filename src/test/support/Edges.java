@@ -29,6 +29,9 @@ abstract class Edges {
     protected static final int[] NINES = {900000, 990000, 999000, 999900};
     protected static final int[] MIDDLES = {950000, 995000, 999500, 999950};
 
+    /** 74 by 90 by 50 by 30 is 9990000, the greatest decimal of 3 digits; each step of it has no more than 3. */
+    protected static final String MOST = "***abcd";
+
     private static final Path DOCUMENT = Path.of("../shared/DOC.md");
 
     private static int tests = 0;
@@ -138,7 +141,11 @@ abstract class Edges {
         all.add((long) x.worst());
         all.add((long) x.needs(ONE));
         all.add((long) x.fault());
-        return shown(x) + all;
+        String signs = shown(x);
+        for (int i = 0; i < signs.length(); i++) {
+            all.add(x.worked(i, 2));
+        }
+        return signs + all;
     }
 
     /** The signs on the PAD and the IMAGES; what is asked is changed by that. */
