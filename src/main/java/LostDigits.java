@@ -524,7 +524,7 @@ public final class LostDigits {
         }
 
         void findParts() {
-            for (int i = length - 1; i >= 0; i--) {
+            for (int i = Math.min(length, LONGEST) - 1; i >= 0; i--) {
                 if (isOperator(signs[i])) {
                     int second = endOf(i + 1);
                     ends[i] = endOf(second);
@@ -723,7 +723,7 @@ public final class LostDigits {
          * Seven leaves of up to 104 keep both numbers below 64 times 104 to the 7th, so they need no cutting down.
          */
         void workParts(Text text, int[] numbers, int letters) {
-            for (int i = text.length - 1; i >= 0; i--) {
+            for (int i = Math.min(text.length, LONGEST) - 1; i >= 0; i--) {
                 if ((text.letters[i] & letters) != 0) {
                     int sign = text.signs[i];
                     if (isOperator(sign)) {
@@ -823,7 +823,7 @@ public final class LostDigits {
         final Ratio ratio = new Ratio();
 
         void work(Text text, int[] numbers) {
-            for (int i = text.length - 1; i >= 0; i--) {
+            for (int i = Math.min(text.length, LONGEST) - 1; i >= 0; i--) {
                 int sign = text.signAt(i);
                 boolean isNumber = true;
                 if (isOperator(sign)) {
@@ -1028,7 +1028,7 @@ public final class LostDigits {
         void bound(Page page) {
             down.turn(page.digits, DOWN);
             up.turn(page.digits, UP);
-            for (int i = page.text.length - 1; i >= 0; i--) {
+            for (int i = Math.min(page.text.length, LONGEST) - 1; i >= 0; i--) {
                 int sign = page.text.signAt(i);
                 if (isOperator(sign)) {
                     join(i, sign, page.text.secondOf(i));
